@@ -10,9 +10,9 @@ public final class BusBlocks {
     private static final int LAST_MINUTE = 1439;
     private static final int LONGEST_TRIP = 240;
     private static final int LONGEST_LAYOVER = 60;
-    private static final int FIRST_LAYOVER = 5;
-    private static final int FIRST_RELIEFS = 2;
     private static final int WIDEST_SEARCH = 120;
+    private static final int[] FIRST_LAYOVERS = {5, 5, 5, 5};
+    private static final int[] FIRST_RELIEFS = {1, 1, 0, 0};
 
     private static final int SETTINGS = 4;
     private static final int SHARING = 0;
@@ -40,10 +40,11 @@ public final class BusBlocks {
     private int savedStates;
 
     public BusBlocks() {
-        now = new Timetable();
+        Timetable table = new Timetable();
+        now = table;
         trial = new Timetable();
-        deficits = new Deficits(now);
-        duties = new Duties(now);
+        deficits = new Deficits(table);
+        duties = new Duties(table);
         buffer = new Text();
         saved = new Shelf(MOST_SAVED);
         slots = new Shelf(SLOTS);
@@ -235,9 +236,9 @@ public final class BusBlocks {
     }
 
     public int blockOf(int block, int what) throws IndexOutOfBoundsException, IllegalArgumentException {
-        checkBlock(block);
-        checkRange(what, 0, 6);
         int first = now.headOf(block);
+        checkHead(first);
+        checkRange(what, 0, 6);
         switch (what) {
             case 0: return first;
             case 1: return now.tripsFrom(first);
@@ -250,12 +251,12 @@ public final class BusBlocks {
     }
 
     public int duty(int block, int rank, int what) throws IndexOutOfBoundsException, IllegalArgumentException {
-        checkBlock(block);
+        int head = now.headOf(block);
+        checkHead(head);
         if (rank < 0) {
             throw new IllegalArgumentException("the rank is below 0");
         }
         checkRange(what, 0, 2);
-        int head = now.headOf(block);
         if (duties.fewestForward(head) <= rank) {
             return NONE;
         }
@@ -456,8 +457,8 @@ public final class BusBlocks {
         }
     }
 
-    private void checkBlock(int block) {
-        if (block < 0 || block >= now.blocks()) {
+    private static void checkHead(int first) {
+        if (first == NONE) {
             throw new IndexOutOfBoundsException("no such block");
         }
     }
@@ -525,14 +526,9 @@ public final class BusBlocks {
             befores = new int[MOST_TRIPS];
             behinds = new int[MOST_TRIPS];
             losts = new int[MOST_TRIPS];
-            layovers = new int[TERMINALS];
-            reliefs = new int[TERMINALS];
-            settings = new int[SETTINGS];
-            for (int terminal = 0; terminal < TERMINALS; terminal++) {
-                put(layovers, terminal, FIRST_LAYOVER);
-                put(reliefs, terminal, terminal < FIRST_RELIEFS ? 1 : 0);
-            }
-            copy(FIRST_VALUES, settings);
+            layovers = FIRST_LAYOVERS.clone();
+            reliefs = FIRST_RELIEFS.clone();
+            settings = FIRST_VALUES.clone();
             trips = 0;
             usedSpares = 0;
             failures = 0;
@@ -697,7 +693,7 @@ public final class BusBlocks {
         // ---- blocks, each told by its first trip
 
         private boolean isHead(int trip) {
-            return isRun(trip) && at(befores, trip) == NONE;
+            return at(losts, trip) == 0 && at(befores, trip) == NONE;
         }
 
         private int headsBelow(int bound) {
@@ -712,6 +708,7 @@ public final class BusBlocks {
             return headsBelow(trips);
         }
 
+        /** The first trip of a block; NONE if there is no such block. */
         private int headOf(int block) {
             int heads = 0;
             for (int trip = 0; trip < trips; trip++) {
@@ -911,12 +908,14 @@ public final class BusBlocks {
         }
 
         private int meetUpTo(int start, int bound) {
-            int place = start;
-            while (place < size && at(events, place) < bound) {
-                meet(at(events, place));
-                place++;
+            for (int place = start; place < size; place++) {
+                int event = at(events, place);
+                if (event >= bound) {
+                    return place;
+                }
+                meet(event);
             }
-            return place;
+            return size;
         }
 
         private void meet(int event) {

@@ -6,6 +6,7 @@ public final class BusesTest {
         promise25();
         promise25Full();
         promise26();
+        promise26OneMinute();
         promise26Edges();
         promise26WrongInputs();
         Check.finish();
@@ -50,6 +51,10 @@ public final class BusesTest {
         Check.due("at the end of the day", x.count(8), 3);
         x.fail(5);
         Check.due("lost ones are not under way", x.count(8), 2);
+        BusBlocks first = new BusBlocks();
+        first.trip(0, 0, 1, 100, 10);
+        first.trip(0, 0, 1, 90, 11);
+        Check.due("as the first trip departs", first.count(8), 2);
     }
 
     private static void promise25() {
@@ -103,6 +108,20 @@ public final class BusesTest {
         x.trip(1, 1, 0, 601, 10);
         Check.due("another route stays", x.bestTime(2, 120), 601);
         Check.due("nothing is changed", x.tripOf(1, 3), 601);
+    }
+
+    private static void promise26OneMinute() {
+        BusBlocks x = new BusBlocks();
+        x.trip(0, 0, 1, 600, 10);
+        x.trip(0, 1, 0, 614, 10);
+        Check.due("one minute later", x.bestTime(1, 1), 615);
+        Check.due("one minute earlier", x.bestTime(0, 1), 599);
+        x.layover(0, 60);
+        x.layover(1, 0);
+        x.shift(1, 609);
+        Check.due("one minute later, at its arrival", x.bestTime(1, 1), 610);
+        x.shift(1, 615);
+        Check.due("it is best where it is", x.bestTime(1, 120), 615);
     }
 
     private static void promise26Edges() {

@@ -16,6 +16,8 @@ public final class DigestTest {
         x.keep(0);
         same(x, "", 1, 1);
         shares();
+        oneTripMore();
+        tenMinutes();
         Check.finish();
     }
 
@@ -55,6 +57,31 @@ public final class DigestTest {
         x.trip(0, 0, 0, 1439, 1);
         Check.chain(x, 0, 1);
         same(x, "", 0, 0);
+    }
+
+    /** States in which each argument of ifTrip 0, 0, 1, 600, 30 counts. */
+    private static void oneTripMore() {
+        BusBlocks x = new BusBlocks();
+        x.set(0, 0);
+        x.trip(0, 1, 0, 500, 95);
+        Check.due("ifTrip", x.ifTrip(0, 0, 1, 600, 30), 1);
+        same(x, "", 0, 0);
+        x.trip(0, 1, 2, 635, 95);
+        Check.due("ifTrip", x.ifTrip(0, 0, 1, 600, 30), 1);
+        same(x, "", 0, 0);
+        x.shift(0, 501);
+        Check.due("ifTrip", x.ifTrip(0, 0, 1, 600, 30), 2);
+        same(x, "", 0, 0);
+    }
+
+    private static void tenMinutes() {
+        for (int away = 8; away <= 12; away++) {
+            BusBlocks x = new BusBlocks();
+            x.trip(0, 0, 1, 600, 10);
+            x.trip(0, 1, 0, 615 - away, 10);
+            Check.due("bestTime", x.bestTime(1, 10), away > 10 ? 615 - away : 615);
+            same(x, "", 0, 0);
+        }
     }
 
     private static void same(BusBlocks x, String buffer, int slot0, int slot1) {

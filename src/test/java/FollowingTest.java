@@ -159,6 +159,16 @@ public final class FollowingTest {
         x.shift(2, 499);
         x.blockAll();
         Check.due("by departures", x.tripOf(0, 6), 2);
+        x.shift(0, 700);
+        x.trip(0, 2, 3, 650, 10);
+        x.shift(3, 650);
+        x.blockAll();
+        Check.due("trip 3 follows the one that waits longest", x.tripOf(3, 5), 1);
+        BusBlocks late = new BusBlocks();
+        late.trip(0, 1, 2, 500, 10);
+        late.trip(0, 0, 1, 400, 10);
+        Check.due("trip 0 follows, too", late.blockAll(), 1);
+        Check.due("trip 0 follows trip 1", late.tripOf(0, 5), 1);
     }
 
     private static void promise9Routes() {

@@ -217,6 +217,15 @@ public final class TripsTest {
         Check.due("routes 1 and 2 one each", x.terminalOf(0, 4), 2);
         x.layover(0, 6);
         Check.due("route 2 needs two", x.terminalOf(0, 4), 3);
+        BusBlocks y = new BusBlocks();
+        y.trip(0, 0, 1, 100, 10);
+        y.trip(0, 1, 0, 115, 10);
+        y.trip(0, 1, 0, 115, 10);
+        Check.due("one is ready for two", y.terminalOf(1, 4), 1);
+        y.trip(0, 1, 0, 300, 10);
+        y.trip(0, 0, 1, 200, 10);
+        Check.due("later ones do not need more", y.terminalOf(1, 4), 1);
+        Check.due("two at 0 came back", y.terminalOf(0, 4), 1);
     }
 
     private static void promise19() {

@@ -3,6 +3,7 @@ public final class UndoTest {
     public static void main(String[] args) {
         promise15And16();
         promise16WhatIsKept();
+        promise16WholeTrips();
         promise17();
         everyUndoableCall();
         notUndoableCalls();
@@ -69,6 +70,25 @@ public final class UndoTest {
         Check.due("refused", x.count(7), 1);
         Check.due("failures", x.count(6), 1);
         Check.due("spares", x.count(5), 1);
+    }
+
+    /** Trips with all fields unlike, in place of others that a snapshot holds. */
+    private static void promise16WholeTrips() {
+        BusBlocks x = new BusBlocks();
+        x.trip(1, 2, 3, 100, 10);
+        x.keep(0);
+        long due = x.digest();
+        x.undo();
+        x.trip(2, 3, 1, 200, 20);
+        long other = x.digest();
+        x.goBack(0);
+        x.undo();
+        Check.due("another trip, restored", x.digest(), other);
+        Check.due("its arrival", x.tripOf(0, 4), 220);
+        x.undo();
+        x.goBack(0);
+        Check.due("the trip of the snapshot", x.digest(), due);
+        Check.due("its arrival", x.tripOf(0, 4), 110);
     }
 
     private static void promise17() {
