@@ -67,9 +67,19 @@ public final class ReferenceTest {
         return below(30) == 0 ? about(0, 3) : below(terminals);
     }
 
+    /** What more than 512 calls answer is free. */
     private void same(String text, Check.Call call, Check.Call due) {
-        calls++;
-        Check.dueText(text, Check.outcome(call), Check.outcome(due));
+        if (calls < CALLS) {
+            calls++;
+            Check.dueText(text, Check.outcome(call), Check.outcome(due));
+        }
+    }
+
+    private void sameShare(String text) {
+        if (calls < CALLS) {
+            calls++;
+            Check.dueShare(text, buses.drivenShare(), reference.drivenShare());
+        }
     }
 
     private void step(String at) {
@@ -208,7 +218,7 @@ public final class ReferenceTest {
                 break;
             default:
                 same(at + "ifFailed", () -> buses.ifFailed(a), () -> reference.ifFailed(a));
-                Check.dueShare(at + "drivenShare", buses.drivenShare(), reference.drivenShare());
+                sameShare(at + "drivenShare");
         }
     }
 }

@@ -2,16 +2,22 @@ import java.lang.management.ManagementFactory;
 
 /** All calls of a run live in one room: no call makes an object or an array, but for the exceptions. */
 public final class RoomTest {
-    private static final int CALLS = 512;
+    private static final int OBJECTS = 32;
+    private static final int ROUNDS = 18;
     private static final long FEW_BYTES = 64 * 1024;
 
     public static void main(String[] args) {
-        everyCall(full(), 20);
-        BusBlocks x = full();
+        everyCall(full(), ROUNDS);
+        BusBlocks[] objects = new BusBlocks[OBJECTS];
+        for (int place = 0; place < OBJECTS; place++) {
+            objects[place] = full();
+        }
         long before = allocated();
-        everyCall(x, CALLS);
+        for (BusBlocks x : objects) {
+            everyCall(x, ROUNDS);
+        }
         long made = allocated() - before;
-        Check.due("many bytes made by " + CALLS + " rounds of calls: " + made, made > FEW_BYTES ? 1 : 0, 0);
+        Check.due("many bytes made by the calls of " + OBJECTS + " objects: " + made, made > FEW_BYTES ? 1 : 0, 0);
         before = allocated();
         full();
         made = allocated() - before;

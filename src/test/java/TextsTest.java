@@ -42,17 +42,17 @@ public final class TextsTest {
     }
 
     private static void promise13() {
-        BusBlocks x = new BusBlocks();
-        Check.due("an empty buffer", x.firstError(), 0);
+        Check.due("an empty buffer", new BusBlocks().firstError(), 0);
         for (String text : WHOLE) {
+            BusBlocks x = new BusBlocks();
             for (int length = 0; length <= text.length(); length++) {
                 Check.type(x, text.substring(0, length));
                 Check.due("firstError() of " + text.substring(0, length), x.firstError(), length);
             }
             Check.type(x, text + ";");
             Check.due("firstError() of " + text + ";", x.firstError(), text.length() + 1);
+            Check.due("the buffer stays", x.clearBuffer(), text.length() + 1);
         }
-        Check.due("the buffer stays", x.clearBuffer(), WHOLE[WHOLE.length - 1].length() + 1);
     }
 
     /** A sign behind a text that begins well, and whether it may stand there. */
@@ -64,10 +64,9 @@ public final class TextsTest {
             {"123@100", "0123456789+"}, {"123@5+", "123456789"}, {"123@5+1", "0123456789;"}, {"123@5+24", "0;"},
             {"123@5+23", "0123456789;"}, {"123@5+25", ";"}, {"123@5+9", "0123456789;"}, {"123@5+99", ";"},
             {"123@5+240", ";"}, {"123@5+199", ";"}, {"123@5+6;", "0123"}, {"123@5+6;0", "0123"}, {"000@0+1;123@5+24", "0;"}};
-        BusBlocks x = new BusBlocks();
         for (String[] start : starts) {
-            x = new BusBlocks();
             for (int code = 33; code <= 126; code++) {
+                BusBlocks x = new BusBlocks();
                 Check.type(x, start[0]);
                 x.append(code);
                 boolean fits = start[1].indexOf(code) >= 0;
