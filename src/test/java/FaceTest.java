@@ -51,6 +51,7 @@ public final class FaceTest {
                 inside.getModifiers() & (Modifier.STATIC | Modifier.PUBLIC | Modifier.PROTECTED), Modifier.STATIC);
         }
         privateNames();
+        sizes();
         Check.finish();
     }
 
@@ -90,6 +91,29 @@ public final class FaceTest {
         Check.due("constructors", found.length, 1);
         Check.due("the constructor's parameters", found[0].getParameterCount(), 0);
         Check.due("the constructor is public", found[0].getModifiers(), Modifier.PUBLIC);
+    }
+
+    /** Rule 11 of the language: seven parameters, twelve classes, twenty fields beside the constants; rule 5: no static state. */
+    private static void sizes() {
+        Class<?>[] inside = BusBlocks.class.getDeclaredClasses();
+        Check.due("more than twelve classes", inside.length + 1 > 12 ? 1 : 0, 0);
+        sizesOf(BusBlocks.class);
+        for (Class<?> each : inside) {
+            sizesOf(each);
+        }
+    }
+
+    private static void sizesOf(Class<?> type) {
+        int fields = 0;
+        for (Field field : type.getDeclaredFields()) {
+            boolean isStatic = Modifier.isStatic(field.getModifiers());
+            fields += isStatic ? 0 : 1;
+            Check.due(type + ": static state in " + field, isStatic && !Modifier.isFinal(field.getModifiers()) ? 1 : 0, 0);
+        }
+        Check.due(type + " has more than twenty fields", fields > 20 ? 1 : 0, 0);
+        for (Method method : type.getDeclaredMethods()) {
+            Check.due(method + " has more than seven parameters", method.getParameterCount() > 7 ? 1 : 0, 0);
+        }
     }
 
     private static void privateNames() {

@@ -240,6 +240,8 @@ public final class TextsBoundsTest {
         firstError("4000@0+1", 0);
         firstError(SIXTY.substring(0, 59) + "x", 59);
         firstError("~" + SIXTY.substring(1, 60), 0);
+        Twins.looks("promise 13: the buffer stays", typed("000@0+0;1"), BusBlocks::firstError, 6);
+        Twins.looks("promise 13: sixty signs stay", typed("~" + SIXTY.substring(1, 60)), BusBlocks::firstError, 0);
     }
 
     private static void promise13ClearedSigns() {
@@ -249,10 +251,19 @@ public final class TextsBoundsTest {
             Check.type(x, SIXTY.substring(0, length));
             Check.due("promise 13: cleared signs are no signs", x.firstError(), length);
         }
-        Check.due("promise 14: nor are they loaded", Twins.after(y -> {
-            Check.type(y, SEVEN_TRIPS);
-            Check.type(y, "333@1439+24");
-        }).load(), 1);
+        BusBlocks digit = new BusBlocks();
+        Check.type(digit, "333@1439+240");
+        Check.type(digit, "333@1439+24");
+        Check.due("promise 14: nor are they loaded", digit.load(), 1);
+        Check.due("promise 14: nor read as digits", digit.tripOf(0, 4), 1463);
+        BusBlocks between = new BusBlocks();
+        Check.type(between, SEVEN_TRIPS);
+        Check.type(between, "000@0+1");
+        Check.due("promise 14: nor read as a trip more", between.load(), 1);
+        Check.due("promise 14: nor counted", Twins.after(y -> {
+            tripsAndText(19, SEVEN_TRIPS).happensTo(y);
+            Check.type(y, "000@0+1");
+        }).load(), 20);
         Twins.refuses("promise 14: nor do they end a text", y -> {
             Check.type(y, "333@1439+240");
             Check.type(y, "333@1439+");
