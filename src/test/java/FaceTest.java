@@ -116,6 +116,7 @@ public final class FaceTest {
         }
     }
 
+    /** Rule 1 of the language: no private method, of the classes inside either, bears the name of a public one. */
     private static void privateNames() {
         TreeSet<String> open = new TreeSet<>();
         for (Method method : BusBlocks.class.getDeclaredMethods()) {
@@ -123,9 +124,17 @@ public final class FaceTest {
                 open.add(method.getName());
             }
         }
-        for (Method method : BusBlocks.class.getDeclaredMethods()) {
+        privateNamesOf(BusBlocks.class, open);
+        for (Class<?> inside : BusBlocks.class.getDeclaredClasses()) {
+            privateNamesOf(inside, open);
+        }
+    }
+
+    private static void privateNamesOf(Class<?> type, TreeSet<String> open) {
+        for (Method method : type.getDeclaredMethods()) {
             boolean hidden = Modifier.isPrivate(method.getModifiers());
-            Check.due("a private method named " + method.getName(), hidden && open.contains(method.getName()) ? 1 : 0, 0);
+            Check.due(type + " has a private method named " + method.getName(),
+                hidden && open.contains(method.getName()) ? 1 : 0, 0);
         }
     }
 }

@@ -11,7 +11,9 @@ public final class LanguageTest {
     private static final String[] RULED_OUT = {
         "->", "::", "\\bfinally\\b", "\\bsynchronized\\b", "\\bassert\\b", "\\bcatch\\b", "\\bDouble\\.", "Exact\\b",
         "\\bSystem\\.(?!arraycopy\\b)", "\\bRandom\\b", "\\bThread\\b", "\\bgetMessage\\b", "\\bequals\\b", "\\bhashCode\\b",
-        "^\\s*static\\s*\\{", "\\bextends \\w*Exception\\b", "^package\\b", "\\bMath\\.(?!max\\b|min\\b|abs\\b)"};
+        "^\\s*static\\s*\\{", "\\bextends \\w*Exception\\b", "^package\\b",
+        "\\bMath\\.(?!max\\b|min\\b|abs\\b)",
+        "\\bArrays\\.(?!fill\\b)", "[^\\x09\\x20-\\x7E]"};
     private static final String THROWN = "IndexOutOfBoundsException|IllegalArgumentException|IllegalStateException";
 
     public static void main(String[] args) throws IOException {
